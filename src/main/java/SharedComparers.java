@@ -64,7 +64,7 @@ public final class SharedComparers {
         if (!chip.hasRoomFor(1)) {
             return FULL;
         }
-        history.record(chip);
+        history.recordState(chip);
         return chip.addAlarm(time, period, rank);
     }
 
@@ -79,7 +79,7 @@ public final class SharedComparers {
         if (!chip.hasRoomFor(text.listed)) {
             return FULL;
         }
-        history.record(chip);
+        history.recordState(chip);
         for (int i = 0; i < text.listed && i < MOST_LISTED; i++) {
             chip.addAlarm(text.times[i], text.periods[i], text.ranks[i]);
         }
@@ -91,7 +91,7 @@ public final class SharedComparers {
         if (place == NOWHERE) {
             return UNKNOWN;
         }
-        history.record(chip);
+        history.recordState(chip);
         chip.cancelAlarm(place);
         return chip.alarmsSet;
     }
@@ -111,7 +111,7 @@ public final class SharedComparers {
         if (previous == time) {
             return NONE;
         }
-        history.record(chip);
+        history.recordState(chip);
         chip.moveAlarm(place, time);
         return previous;
     }
@@ -126,7 +126,7 @@ public final class SharedComparers {
         if (previous == many) {
             return NONE;
         }
-        history.record(chip);
+        history.recordState(chip);
         chip.changeComparers(many);
         return previous;
     }
@@ -139,7 +139,7 @@ public final class SharedComparers {
         if (previous == counts) {
             return NONE;
         }
-        history.record(chip);
+        history.recordState(chip);
         chip.window = counts;
         chip.shareOut();
         return previous;
@@ -153,7 +153,7 @@ public final class SharedComparers {
         if (previous == ticks) {
             return NONE;
         }
-        history.record(chip);
+        history.recordState(chip);
         chip.loading = ticks;
         return previous;
     }
@@ -166,7 +166,7 @@ public final class SharedComparers {
         if (previous == drift) {
             return NONE;
         }
-        history.record(chip);
+        history.recordState(chip);
         chip.drift = drift;
         return previous;
     }
@@ -182,7 +182,7 @@ public final class SharedComparers {
         if (by == 0) {
             return NONE;
         }
-        history.record(chip);
+        history.recordState(chip);
         chip.counter = corrected;
         chip.shareOut();
         return corrected;
@@ -195,7 +195,7 @@ public final class SharedComparers {
         if (chip.counter + 2 * ticks > GREATEST_COUNT) {
             return FULL;
         }
-        history.record(chip);
+        history.recordState(chip);
         int ringsBefore = chip.totals.rings;
         for (int i = 0; i < ticks; i++) {
             chip.tick();
@@ -235,7 +235,7 @@ public final class SharedComparers {
         if (!isKept) {
             return NONE;
         }
-        history.record(chip);
+        history.recordState(chip);
         chip.copyFrom(snapshot);
         return chip.counter;
     }
@@ -744,7 +744,7 @@ public final class SharedComparers {
 
         private void takeOff(Alarm alarm) {
             int left = alarm.comparer;
-            if (left == NONE) {
+            if (left < 0 || left >= MOST_COMPARERS) {
                 return;
             }
             alarm.comparer = NONE;
@@ -866,7 +866,7 @@ public final class SharedComparers {
             }
         }
 
-        private void record(Chip now) {
+        private void recordState(Chip now) {
             if (states == MOST_STATES) {
                 dropOldest();
             }
