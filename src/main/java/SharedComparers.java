@@ -32,7 +32,8 @@ public final class SharedComparers {
     private static final int LOGGED_RINGS = 8;
     private static final int LOGGED_FACTS = 4;
 
-    // Sharing out ends by itself, far below this: each taking over is by an earlier alarm than those it sends off.
+    // Sharing out ends by itself, far below this: it serves the alarms by their order, and only a group that is wider
+    // than the window can lose its comparer to a later alarm than one of its own; no such group is formed anew.
     private static final int MOST_TURNS = 1000000;
 
     private final Chip chip;
