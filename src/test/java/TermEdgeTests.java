@@ -312,6 +312,7 @@ public final class TermEdgeTests {
             comparer(0,3) 0
             """,
             "set(1,1,0) run(8) run(3) undo() 2 ring(0,1) 8 ring(7,1) 1 ring(8,1) NONE",
+            "set(1,1,0) run(8) run(9) undo() 2 ring(0,1) 8 ring(3,1) 5 ring(4,1) 4 ring(7,1) 1",
             """
             setDrift(3) setWindow(4) setLoading(5) keep() setDrift(0) setWindow(0) setLoading(0) restore() 0 count(13) 4
             count(14) 5 count(15) 3
